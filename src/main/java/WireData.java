@@ -34,7 +34,8 @@ public final class WireData {
     private static final int KIND_INT = 4;
     private static final int[] KIND_SIZES = {1, 1, 2, 2, 4, 8};
 
-    // Answers of Cursor.next that are no byte.
+    // What looking for a byte of data can come to; the last two stand beside the bytes 0 .. 255.
+    private static final int FOUND = 0;
     private static final int END = -1;
     private static final int CORRUPT = -2;
 
@@ -393,7 +394,7 @@ public final class WireData {
         private int next(Output source) {
             if (blockMode) {
                 int found = findBlock(source);
-                if (found != 0) {
+                if (found != FOUND) {
                     return found;
                 }
             }
@@ -407,7 +408,7 @@ public final class WireData {
             return source.logged(place - 1);
         }
 
-        /** 0 if bytes of a block are left, perhaps after passing headers and resets; else END or CORRUPT. */
+        /** FOUND if bytes of a block are left, perhaps after headers and resets; else END or CORRUPT. */
         private int findBlock(Output source) {
             // Every turn passes a byte of the log at least, or ends the loop.
             for (int turns = source.length - place; turns > 0 && left == 0; turns--) {
@@ -423,7 +424,7 @@ public final class WireData {
                     return endAt(mark);
                 }
             }
-            return left == 0 ? END : 0;
+            return left == 0 ? END : FOUND;
         }
 
         /** Passes a header whose number has that many bytes; false if the header is corrupt. */

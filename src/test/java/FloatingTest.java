@@ -15,6 +15,7 @@ public final class FloatingTest {
         readFloats();
         everyExponent();
         noNumber();
+        writtenNoNumber();
         inBlocks();
         dataEnd();
         Check.finish();
@@ -83,7 +84,7 @@ public final class FloatingTest {
     }
 
     private static void stepwiseRounding() {
-        // 1.125 times 2^-1073 is rounded to 1.0 before the last step; 1.375 rises twice, to 1.5 and to 2.
+        // Rounded only once, 1.375 of the least value would be 1; in steps it rises to 1.5, then to 2.
         Check.same("promise 6: 1.125 by -1074", bitsOf(1.125, -1074), 1);
         Check.same("promise 6: 1.375 by -1074", bitsOf(1.375, -1074), 2);
         Check.same("promise 6: 0.5 by -1074", bitsOf(0.5, -1074), 0);
@@ -171,6 +172,17 @@ public final class FloatingTest {
         Check.same("promise 19: read does not count", data.state(5), 1);
         data.rewind();
         Check.same("promise 19: rewind does not count", data.state(5), 1);
+    }
+
+    private static void writtenNoNumber() {
+        // The document names no bits for it, but what is no number can only be written as NO NUMBER.
+        WireData data = new WireData();
+        Check.same("promise 5: no number", data.writeFloat(Float.NaN, 1), 4);
+        Check.same("promise 6: no number", data.writeDouble(Double.NaN, -1), 8);
+        data.readFloat();
+        Check.same("promise 5: NO NUMBER is met", data.state(5), 1);
+        Check.same("promise 12: answers 0", data.readDouble(), 0);
+        Check.same("promise 6: NO NUMBER is met", data.state(5), 1);
     }
 
     private static void inBlocks() {

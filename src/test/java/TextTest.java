@@ -14,6 +14,8 @@ public final class TextTest {
         readCodes();
         longForms();
         malformed();
+        malformedBehindAnother();
+        textThatFillsTheLog();
         refusalsChangeNothing();
         tooManyCodes();
         bytesComeFirst();
@@ -157,7 +159,8 @@ public final class TextTest {
     }
 
     private static void malformed() {
-        int[][] wrong = {{0x80}, {0xBF}, {0xF0}, {0xFF}, {0xF0, 0x80, 0x80, 0x80}, {0xC3}, {0x41, 0xDF}, {0xE2},
+        int[][] wrong = {{0x80}, {0xBF}, {0xF0}, {0xFF}, {0x80, 0x80}, {0xBF, 0x80},
+            {0xF0, 0x80, 0x80}, {0xFF, 0x80, 0x80}, {0xF0, 0x80, 0x80, 0x80}, {0xC3}, {0x41, 0xDF}, {0xE2},
             {0xE2, 0x82}, {0x41, 0xEF, 0xBF}, {0xC3, 0x7F}, {0xC3, 0xC0}, {0xC3, 0x00}, {0xC3, 0xFF},
             {0xE2, 0x7F, 0x80}, {0xE2, 0xC0, 0x80}, {0xE2, 0x82, 0x7F}, {0xE2, 0x82, 0xC0}, {0xE2, 0x82, 0x00},
             {0x41, 0x42, 0x80}};
@@ -168,6 +171,26 @@ public final class TextTest {
             Check.refused("promise 13: " + java.util.Arrays.toString(bytes), ARGUMENT, data::readText);
             Check.same("promise 13: PLACE stays", data.state(2), 0);
         }
+    }
+
+    private static void malformedBehindAnother() {
+        // The bytes of the first text would make the second one whole.
+        WireData two = Bytes.log(0, 3, 0x41, 0xC3, 0x88, 0, 2, 0x41, 0xC3);
+        two.readText();
+        Check.refused("promise 13: cut behind a whole text", ARGUMENT, two::readText);
+        WireData three = Bytes.log(0, 4, 0x41, 0xE2, 0x82, 0xAC, 0, 3, 0x41, 0xE2, 0x82);
+        three.readText();
+        Check.refused("promise 13: cut behind a whole text", ARGUMENT, three::readText);
+    }
+
+    private static void textThatFillsTheLog() {
+        WireData data = new WireData();
+        Bytes.fill(data, 1496);
+        data.put(0, 128);
+        data.put(1, 128);
+        Check.same("promise 8: two bytes too many", data.writeText(2), WireData.FULL);
+        Check.same("promise 8: length of the log", data.state(0), 1496);
+        Check.same("promise 8: just as many as fit", data.writeText(1), 4);
     }
 
     private static void refusalsChangeNothing() {
