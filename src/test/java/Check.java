@@ -6,23 +6,39 @@ final class Check {
 
     private static int done = 0;
     private static int wrong = 0;
+    private static String sentence = "";
 
     private Check() {
+    }
+
+    /** The checks from here on are those of a sentence of the document, which a wrong answer then names. */
+    static void sentence(String where, String words) {
+        sentence = where + ", '" + words + "': ";
+    }
+
+    private static void tell(String what, Object got, Object want) {
+        wrong++;
+        System.out.println(sentence + what + " answered " + got + ", due is " + want);
     }
 
     static void same(String what, double got, double want) {
         done++;
         if (got != want) {
-            wrong++;
-            System.out.println(what + " answered " + got + ", due is " + want);
+            tell(what, got, want);
         }
     }
 
     static void same(String what, long got, long want) {
         done++;
         if (got != want) {
-            wrong++;
-            System.out.println(what + " answered " + got + ", due is " + want);
+            tell(what, got, want);
+        }
+    }
+
+    static void same(String what, String got, String want) {
+        done++;
+        if (!got.equals(want)) {
+            tell(what, got, want);
         }
     }
 
@@ -41,8 +57,7 @@ final class Check {
             }
             got = e.getClass().getName();
         }
-        wrong++;
-        System.out.println(what + " answered " + got + ", due is " + due.getName());
+        tell(what, got, due.getName());
     }
 
     /** The bytes at the end of the log, from a place on, are these and no more. */

@@ -1,7 +1,12 @@
-/** All promises: runs of mixed calls, in which program and model answer alike after every call. */
+/** All promises: runs of mixed calls, in which program and model answer alike. */
 public final class ModelTest {
-    private static final int RUNS = 600;
-    private static final int CALLS = 512;
+    private static final int RUNS = 12000;
+
+    // An object is promised to work for 512 calls: 257 of a run, 16 times 6 states, 40 codes, 118 bytes.
+    private static final int CALLS = 256;
+    private static final int CALLS_BETWEEN_STATES = 16;
+    private static final int BYTES = 118;
+
     private static final int[] EDGES = {-1, 0, 1, 2, 5, 6, 8, 9, 39, 40, 41, 255, 256, 1500, 1501};
     private static final double[] VALUES = {0, 1, -1, 0.1, -1.375, 1e10, 5.5, Double.MIN_VALUE, Float.MIN_VALUE,
         Float.MAX_VALUE, -1e300, Double.POSITIVE_INFINITY};
@@ -20,6 +25,8 @@ public final class ModelTest {
     private ModelTest(int run) {
         this.run = run;
         this.seed = run;
+        data.blocks(isLongBlockRun());
+        model.blocks(isLongBlockRun());
     }
 
     public static void main(String[] args) {
@@ -27,7 +34,12 @@ public final class ModelTest {
             ModelTest test = new ModelTest(run);
             for (int i = 0; i < CALLS; i++) {
                 test.step(i);
+                if (i % CALLS_BETWEEN_STATES == CALLS_BETWEEN_STATES - 1) {
+                    test.compareStates(i);
+                }
             }
+            test.compareCodes();
+            test.compareBytes();
         }
         Check.finish();
     }
@@ -38,13 +50,20 @@ public final class ModelTest {
         return (int) ((seed >>> 33) % bound);
     }
 
-    /** A third of the runs fills the log soon, a third mixes all calls, a third reads much of odd bytes. */
+    private boolean isLongBlockRun() {
+        return run % 4 == 3;
+    }
+
+    /** A fourth of the runs fills the log soon, one mixes all calls, one reads odd bytes, one makes long blocks. */
     private int pick() {
         int dice = below(100);
-        if (run % 3 == 0) {
+        if (isLongBlockRun()) {
+            return dice < 98 ? below(5) : below(16);
+        }
+        if (run % 4 == 0) {
             return dice < 60 ? below(6) : below(16);
         }
-        if (run % 3 == 1) {
+        if (run % 4 == 1) {
             return below(16);
         }
         return dice < 25 ? 6 : 7 + below(9);
@@ -78,9 +97,9 @@ public final class ModelTest {
         double value = VALUES[below(VALUES.length)];
         String due = due(call, a, b, value);
         String got = got(call, a, b, value);
-        String what = "run " + run + ", call " + number + ", of sort " + call + "(" + a + ", " + b + ", " + value + ")";
-        Check.isTrue(due.equals(got) ? "" : what + " answered " + got + ", due is " + due + ":", due.equals(got));
-        compare(what);
+        String what = due.equals(got) ? "" : "run " + run + ", call " + number + ", of sort " + call
+                + "(" + a + ", " + b + ", " + value + ")";
+        Check.same(what, got, due);
     }
 
     private String due(int call, int a, long b, double value) {
@@ -144,16 +163,24 @@ public final class ModelTest {
         }
     }
 
-    private void compare(String what) {
+    private void compareStates(int number) {
         for (int i = 0; i < 6; i++) {
-            Check.same(what + ": state(" + i + ")", data.state(i), model.state(i));
+            Check.same("run " + run + ", after call " + number + ", state(" + i + ")", data.state(i), model.state(i));
         }
+    }
+
+    private void compareCodes() {
         for (int i = 0; i < 40; i++) {
-            Check.same(what + ": code(" + i + ")", data.code(i), model.code(i));
+            Check.same("run " + run + ", code(" + i + ")", data.code(i), model.code(i));
         }
-        int from = below(8) == 0 ? -1 : model.state(0) - 20;
-        for (int i = from; i <= model.state(0); i++) {
-            Check.same(what + ": byteAt(" + i + ")", data.byteAt(i), model.byteAt(i));
+    }
+
+    /** The last bytes, where the end is, and then any of the others. */
+    private void compareBytes() {
+        int length = model.state(0);
+        for (int i = 0; i < BYTES; i++) {
+            int place = i < BYTES / 2 ? length - i : below(length + 1) - 1;
+            Check.same("run " + run + ", byteAt(" + place + ")", data.byteAt(place), model.byteAt(place));
         }
     }
 }

@@ -152,7 +152,7 @@ public final class TextTest {
     }
 
     private static void reads(int code, int... bytes) {
-        WireData data = text(bytes);
+        WireData data = Bytes.text(bytes);
         data.put(0, 77);
         Check.same("promise 13: text of " + code, data.readText(), 1);
         Check.same("promise 13: its code", data.code(0), code);
@@ -165,7 +165,7 @@ public final class TextTest {
             {0xE2, 0x7F, 0x80}, {0xE2, 0xC0, 0x80}, {0xE2, 0x82, 0x7F}, {0xE2, 0x82, 0xC0}, {0xE2, 0x82, 0x00},
             {0x41, 0x42, 0x80}};
         for (int[] bytes : wrong) {
-            WireData data = text(bytes);
+            WireData data = Bytes.text(bytes);
             // A byte that would fit lies behind the text, but is none of it.
             Bytes.add(data, 0x80, 0x80);
             Check.refused("promise 13: " + java.util.Arrays.toString(bytes), ARGUMENT, data::readText);
@@ -204,13 +204,13 @@ public final class TextTest {
     }
 
     private static void tooManyCodes() {
-        Check.same("promise 13: 40 codes", text(repeated(40, 0x42)).readText(), 40);
-        Check.refused("promise 13: 41 codes", ARGUMENT, text(repeated(41, 0x42))::readText);
-        Check.refused("promise 13: 121 codes", ARGUMENT, text(repeated(121, 0x42))::readText);
-        Check.refused("promise 13: 1000 codes", ARGUMENT, text(repeated(1000, 0x42))::readText);
-        Check.same("promise 13: 120 bytes", text(repeated(40, 0xE3, 0x81, 0x82)).readText(), 40);
-        Check.refused("promise 13: 123 bytes", ARGUMENT, text(repeated(41, 0xE3, 0x81, 0x82))::readText);
-        Check.refused("promise 13: 41 of two bytes", ARGUMENT, text(repeated(41, 0xC2, 0x82))::readText);
+        Check.same("promise 13: 40 codes", Bytes.text(Bytes.repeated(40, 0x42)).readText(), 40);
+        Check.refused("promise 13: 41 codes", ARGUMENT, Bytes.text(Bytes.repeated(41, 0x42))::readText);
+        Check.refused("promise 13: 121 codes", ARGUMENT, Bytes.text(Bytes.repeated(121, 0x42))::readText);
+        Check.refused("promise 13: 1000 codes", ARGUMENT, Bytes.text(Bytes.repeated(1000, 0x42))::readText);
+        Check.same("promise 13: 120 bytes", Bytes.text(Bytes.repeated(40, 0xE3, 0x81, 0x82)).readText(), 40);
+        Check.refused("promise 13: 123 bytes", ARGUMENT, Bytes.text(Bytes.repeated(41, 0xE3, 0x81, 0x82))::readText);
+        Check.refused("promise 13: 41 of two bytes", ARGUMENT, Bytes.text(Bytes.repeated(41, 0xC2, 0x82))::readText);
     }
 
     private static void bytesComeFirst() {
@@ -221,7 +221,7 @@ public final class TextTest {
         Check.refused("promise 13: the number is 0 .. 65535", NoSuchElementException.class,
                 Bytes.log(255, 255, 0x41)::readText);
         Check.refused("promise 13: the end goes before too many", NoSuchElementException.class,
-                text(200, repeated(199, 0x41))::readText);
+                Bytes.text(200, Bytes.repeated(199, 0x41))::readText);
         Check.refused("promise 13: corrupt goes before the form", IllegalStateException.class,
                 Bytes.blocks(0x77, 3, 0, 2, 0x80, 0x6F)::readText);
         Check.refused("promise 13: an end in blocks", NoSuchElementException.class,
@@ -233,24 +233,5 @@ public final class TextTest {
         Check.same("promise 13: over blocks", data.readText(), 1);
         Check.same("promise 13: its code", data.code(0), 200);
         Check.states("promise 13: over blocks", data, 15, 0, 14, 1, 1, 0);
-    }
-
-    private static WireData text(int... bytes) {
-        return text(bytes.length, bytes);
-    }
-
-    private static WireData text(int number, int[] bytes) {
-        WireData data = new WireData();
-        data.raw(number, 2);
-        Bytes.add(data, bytes);
-        return data;
-    }
-
-    private static int[] repeated(int times, int... bytes) {
-        int[] all = new int[times * bytes.length];
-        for (int i = 0; i < all.length; i++) {
-            all[i] = bytes[i % bytes.length];
-        }
-        return all;
     }
 }
