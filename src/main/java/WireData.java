@@ -86,14 +86,17 @@ public final class WireData {
         if (scale < -FLOAT_SCALE_LIMIT || scale > FLOAT_SCALE_LIMIT) {
             throw new IllegalArgumentException("scale is not -300 .. 300");
         }
-        return writeNumber(Layout.FLOAT.bitsOf(scaledFloat(value, scale)), Layout.FLOAT.size);
+        // Neither arithmetic nor a cast may answer NaN, so what is no number becomes bits at once.
+        long bits = value != value ? Layout.FLOAT.noNumber() : Layout.FLOAT.bitsOf(scaledFloat(value, scale));
+        return writeNumber(bits, Layout.FLOAT.size);
     }
 
     public int writeDouble(double value, int scale) throws IllegalArgumentException {
         if (scale < -DOUBLE_SCALE_LIMIT || scale > DOUBLE_SCALE_LIMIT) {
             throw new IllegalArgumentException("scale is not -2200 .. 2200");
         }
-        return writeNumber(Layout.DOUBLE.bitsOf(scaledDouble(value, scale)), Layout.DOUBLE.size);
+        long bits = value != value ? Layout.DOUBLE.noNumber() : Layout.DOUBLE.bitsOf(scaledDouble(value, scale));
+        return writeNumber(bits, Layout.DOUBLE.size);
     }
 
     public int put(int place, int code) throws IllegalArgumentException {
@@ -141,16 +144,16 @@ public final class WireData {
 
     public float readFloat() throws IllegalStateException, NoSuchElementException {
         // Every float is a double too, so the cast rounds nothing.
-        return (float) readFloating(Layout.FLOAT);
+        return (float) valueRead(Layout.FLOAT, readNumber(Layout.FLOAT.size));
     }
 
     public double readDouble() throws IllegalStateException, NoSuchElementException {
-        return readFloating(Layout.DOUBLE);
+        return valueRead(Layout.DOUBLE, readNumber(Layout.DOUBLE.size));
     }
 
     public int readText() throws IllegalStateException, IllegalArgumentException, NoSuchElementException {
         trial.copyFrom(reading);
-        int size = (int) takeNumber(2);
+        int size = takeByte() << 8 | takeByte();
         for (int i = 0; i < size; i++) {
             text.keepByte(i, takeByte());
         }
@@ -249,10 +252,6 @@ public final class WireData {
     }
 
     private static float scaledFloat(float value, int scale) {
-        // Arithmetic must never answer NaN, so what is no number is not multiplied.
-        if (value != value) {
-            return value;
-        }
         // Not by one power of two: below the normal range each step rounds by itself.
         float factor = scale > 0 ? 2.0f : 0.5f;
         int steps = Math.abs(scale);
@@ -264,10 +263,7 @@ public final class WireData {
     }
 
     private static double scaledDouble(double value, int scale) {
-        // Both comments of scaledFloat hold here too.
-        if (value != value) {
-            return value;
-        }
+        // Step by step, for the reason told in scaledFloat.
         double factor = scale > 0 ? 2.0 : 0.5;
         int steps = Math.abs(scale);
         double result = value;
@@ -279,23 +275,18 @@ public final class WireData {
 
     private long readNumber(int size) {
         trial.copyFrom(reading);
-        long number = takeNumber(size);
-        reading.copyFrom(trial);
-        return number;
-    }
-
-    private double readFloating(Layout layout) {
-        long bits = readNumber(layout.size);
-        metNoNumber = layout.isNoNumber(bits);
-        return metNoNumber ? 0.0 : layout.valueIn(bits);
-    }
-
-    private long takeNumber(int size) {
         long number = 0;
         for (int i = 0; i < size; i++) {
             number = number << 8 | takeByte();
         }
+        reading.copyFrom(trial);
         return number;
+    }
+
+    /** The value of bits that were read; keeps whether they are no number. */
+    private double valueRead(Layout layout, long bits) {
+        metNoNumber = layout.isNoNumber(bits);
+        return metNoNumber ? 0.0 : layout.valueIn(bits);
     }
 
     private int takeByte() {
@@ -589,13 +580,14 @@ public final class WireData {
             return exponentIn(bits) == allOnes() && fractionIn(bits) != 0;
         }
 
+        /** The document names no bits to write for it: those that Java itself gives. */
+        private long noNumber() {
+            return allOnes() * one() + one() / 2;
+        }
+
         private long bitsOf(double value) {
             if (value == 0) {
                 return 0;
-            }
-            if (value != value) {
-                // The document names no bits for it: those that Java itself gives.
-                return allOnes() * one() + one() / 2;
             }
             if (value < 0) {
                 return 1L << 8 * size - 1 | magnitudeBits(-value);
